@@ -167,6 +167,27 @@ final class CasesTest {
         Checks.same(1, sentFirst.lettersByMessages(0));
     }
 
+    static void promise07PaymentsOfAPartLeaveTheCaseOpen() {
+        DunningDesk desk = Desks.withCase(100, 0);
+        Desks.postedAndFinished(desk, 1, 'p', 0, 60);
+        Desks.postedAndFinished(desk, 2, 'n', 0, 60);
+        desk.pass(1);
+        desk.take(0, 0);
+        Checks.yes(desk.finish(2));
+        Checks.same(1, desk.lettersByMessages(0));
+        Desks.postedAndFinished(desk, 3, 'p', 0, 39);
+        desk.pass(7);
+        desk.take(0, 0);
+        Checks.yes(desk.finish(4));
+        Checks.same(2, desk.lettersByMessages(0));
+        desk.pass(7);
+        Desks.postedAndFinished(desk, 4, 'p', 0, 9999);
+        desk.take(0, 0);
+        Checks.no(desk.finish(5));
+        Checks.same(2, desk.lettersByMessages(0));
+        Checks.same(2, desk.letters(0));
+    }
+
     static void promise08NextReminderIsTheGreatestOfThreeDays() {
         DunningDesk desk = Desks.withCase(100, 10);
         Checks.same(11, desk.nextReminder(0));

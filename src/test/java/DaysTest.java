@@ -213,4 +213,12 @@ final class DaysTest {
         Desks.postedAndFinished(desk, 4, 'p', 2, 100);
         Checks.refused(ArithmeticException.class, desk::meanAmount);
     }
+
+    static void promise27MeanOfEightCases() {
+        DunningDesk desk = new DunningDesk();
+        for (int number = 0; number < 8; number++) {
+            desk.open(9999 - number, 999);
+        }
+        Checks.same(79964.0 / 8.0, desk.meanAmount());
+    }
 }

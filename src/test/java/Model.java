@@ -72,6 +72,11 @@ public final class Model {
         }
     }
 
+    /** For ModelTest alone, which picks messages by it. */
+    int messageCount() {
+        return messages.size();
+    }
+
     private Message keyed(int key) {
         return messages.stream().filter(m -> m.key == key).findFirst().orElse(null);
     }

@@ -1,7 +1,9 @@
 import java.lang.reflect.InvocationTargetException;
 import java.lang.reflect.Method;
+import java.util.ArrayList;
 import java.util.Arrays;
 import java.util.HashMap;
+import java.util.List;
 import java.util.Map;
 import java.util.Random;
 
@@ -67,8 +69,9 @@ final class ModelTest {
 
     static void runsOfRemindersAlone() {
         for (int seed = 4000; seed < 4200; seed++) {
-            new ModelTest(seed, 50, 1, 3, "open", "take", "take", "finish", "finish", "finish", "pass",
-                "pass", "pause", "awaitNote", "post").run();
+            new ModelTest(seed, 40, 1, 3, "open", "take", "take", "take", "take", "take", "finish", "finish",
+                "finish", "finish", "finish", "pass", "pass", "pass", "pass", "pause", "awaitNote", "post",
+                "post").run();
         }
     }
 
@@ -87,7 +90,7 @@ final class ModelTest {
         Model model = new Model();
         for (int call = 1; call <= CALLS; call++) {
             String name = random.nextInt(100) < lookShare ? oneOf(LOOKS) : oneOf(deeds);
-            Object[] arguments = argumentsFor(name, ON_DESK.get(name).getParameterTypes());
+            Object[] arguments = argumentsFor(name, ON_DESK.get(name).getParameterTypes(), model);
             String due = answer(ON_MODEL.get(name), model, arguments);
             String got = answer(ON_DESK.get(name), desk, arguments);
             if (!due.equals(got)) {
@@ -107,21 +110,21 @@ final class ModelTest {
         }
     }
 
-    private Object[] argumentsFor(String name, Class<?>[] types) {
+    private Object[] argumentsFor(String name, Class<?>[] types, Model model) {
         Object[] arguments = new Object[types.length];
         for (int i = 0; i < types.length; i++) {
             if (types[i] == char.class) {
                 arguments[i] = name.equals("post") ? sign("ppppppnnnnr") : sign("hwtdxhwtdxpn\uffff");
             } else {
                 arguments[i] = random.nextInt(60) == 0
-                    ? EXTREMES[random.nextInt(EXTREMES.length)] : number(name, i);
+                    ? EXTREMES[random.nextInt(EXTREMES.length)] : number(name, i, model);
             }
         }
         return arguments;
     }
 
-    /** A number that mostly is in range: what stands first in a call is an index, as a rule. */
-    private int number(String name, int place) {
+    /** A number that mostly is in range, and mostly fits the state: else the calls would all be refused. */
+    private int number(String name, int place, Model model) {
         switch (name) {
             case "open":
                 return place == 0 ? 1 + random.nextInt(random.nextBoolean() ? 40 : 9999)
@@ -145,9 +148,25 @@ final class ModelTest {
             case "withKey":
                 return random.nextBoolean() ? random.nextInt(60)
                     : 1000 + 10 * random.nextInt(8) + random.nextInt(4);
+            case "finish": case "handBack":
+                return messageIn('t', model);
+            case "revive":
+                return messageIn('x', model);
             default:
                 return random.nextInt(random.nextBoolean() ? 12 : 80);
         }
+    }
+
+    /** Mostly one of the messages in the state, now and then any number. */
+    private int messageIn(char state, Model model) {
+        List<Integer> found = new ArrayList<>();
+        for (int message = 0; message < model.messageCount(); message++) {
+            if (model.state(message) == state) {
+                found.add(message);
+            }
+        }
+        return found.isEmpty() || random.nextInt(8) == 0 ? random.nextInt(80)
+            : found.get(random.nextInt(found.size()));
     }
 
     private char sign(String signs) {
