@@ -1,15 +1,43 @@
+import java.util.NoSuchElementException;
+
 /** Promises 1 to 8: a new desk and its cases. */
 final class CasesTest {
     private CasesTest() {
     }
 
+    @Says("Creates a desk without cases and messages,")
     static void promise01NewDeskIsEmpty() {
         DunningDesk desk = new DunningDesk();
+        for (int queue = 0; queue < 3; queue++) {
+            Checks.same(0, desk.ready(queue));
+        }
+        for (int clerk = 0; clerk < 4; clerk++) {
+            Checks.same(0, desk.has(clerk));
+        }
+        for (char state : "hwtdx".toCharArray()) {
+            Checks.same(0, desk.count(state));
+        }
+        Checks.refused(ArithmeticException.class, desk::doneShare);
+        Checks.refused(ArithmeticException.class, desk::meanAmount);
+        for (int number = 0; number < 8; number++) {
+            int none = number;
+            Checks.refused(IndexOutOfBoundsException.class, () -> desk.amount(none));
+        }
+        for (int message = 0; message < 80; message++) {
+            int none = message;
+            Checks.refused(IndexOutOfBoundsException.class, () -> desk.state(none));
+        }
+        Checks.same(0, desk.post(0, 0, 'p', 0, 0, 0));
+        Checks.same(0, desk.open(1, 0));
+    }
+
+    @Says("on the day 0.")
+    static void promise01NewDeskIsOnDay0() {
+        DunningDesk desk = new DunningDesk();
         Checks.same(0, desk.day());
-        Checks.same("queue queue queue 0 0 0 0 0 0 0 0 0 throws.ArithmeticException"
-            + " throws.ArithmeticException day 0", Desks.seen(desk, 0, 0));
-        Checks.refused(IndexOutOfBoundsException.class, () -> desk.amount(0));
-        Checks.refused(IndexOutOfBoundsException.class, () -> desk.state(0));
+        desk.open(5, 0);
+        Checks.same(1, desk.nextReminder(0));
+        Checks.same(1, desk.pause(0, 1));
     }
 
     static void promise01DesksShareNothing() {
@@ -21,6 +49,19 @@ final class CasesTest {
         Checks.same(0, other.count('w'));
     }
 
+    @Says("Opens a case;")
+    static void promise02CaseIsThereFromNowOn() {
+        DunningDesk desk = new DunningDesk();
+        Checks.refused(IndexOutOfBoundsException.class, () -> desk.amount(0));
+        desk.open(100, 0);
+        Checks.same(100, desk.amount(0));
+        Checks.same(0, desk.letters(0));
+        Checks.same(100.0, desk.meanAmount());
+        Checks.same(1, desk.pass(1));
+        Checks.same('w', desk.state(desk.post(1, 5, 'n', 0, 0, 0)));
+    }
+
+    @Says("Returns the number of the case.")
     static void promise02CasesAreNumberedFromZero() {
         DunningDesk desk = new DunningDesk();
         for (int number = 0; number < 8; number++) {
@@ -42,6 +83,7 @@ final class CasesTest {
         Checks.same(1000, desk.nextReminder(1));
     }
 
+    @Says("messages that are held for it wait from now on,")
     static void promise02HeldMessagesWaitFromTheOpening() {
         DunningDesk desk = new DunningDesk();
         desk.post(1, 5, 'p', 0, 7, 2);
@@ -63,6 +105,45 @@ final class CasesTest {
         Checks.same('t', desk.state(0));
     }
 
+    @Says("and are ready no earlier than on this day.")
+    static void promise02HeldMessagesAreReadyNoEarlierThanToday() {
+        int[] delays = {0, 9, 10, 11, 30};
+        int[] days = {10, 10, 10, 11, 30};
+        DunningDesk desk = new DunningDesk();
+        for (int message = 0; message < 5; message++) {
+            desk.post(1, message, 'n', 0, 0, delays[message]);
+        }
+        desk.pass(10);
+        desk.open(100, 999);
+        for (int message = 0; message < 5; message++) {
+            Checks.same(days[message], desk.readyAt(message));
+        }
+        Checks.same(3, desk.ready(1));
+        desk.pass(1);
+        Checks.same(4, desk.ready(1));
+    }
+
+    static void promise02HeldMessageIsReadyAtOnceOnTheSameDay() {
+        DunningDesk desk = new DunningDesk();
+        desk.post(1, 1, 'n', 0, 0, 0);
+        desk.open(100, 999);
+        Checks.same(0, desk.readyAt(0));
+        Checks.same(0, desk.take(0, 1));
+    }
+
+    static void promise02HeldMessagesOfAllCasesInAFullDesk() {
+        DunningDesk desk = new DunningDesk();
+        for (int message = 0; message < 80; message++) {
+            desk.post(message % 3, message, 'n', message % 8, 0, 0);
+        }
+        for (int number = 0; number < 8; number++) {
+            Checks.same(80 - 10 * number, desk.count('h'));
+            Checks.same(number, desk.open(100, 999));
+        }
+        Checks.same(0, desk.count('h'));
+        Checks.same(80, desk.ready(0) + desk.ready(1) + desk.ready(2));
+    }
+
     static void promise02LaterCaseLeavesOtherMessagesAlone() {
         DunningDesk desk = Desks.withPayments(1);
         desk.pass(3);
@@ -70,6 +151,19 @@ final class CasesTest {
         Checks.same(0, desk.readyAt(0));
     }
 
+    @Says("Returns the amount of a case.")
+    static void promise03AmountOfEachCase() {
+        DunningDesk desk = new DunningDesk();
+        int[] amounts = {1, 9999, 2, 9998, 100, 50, 1, 9999};
+        for (int number = 0; number < 8; number++) {
+            desk.open(amounts[number], 999);
+        }
+        for (int number = 0; number < 8; number++) {
+            Checks.same(amounts[number], desk.amount(number));
+        }
+    }
+
+    @Says("Returns the amount.")
     static void promise03AmountIsWhatIsStillOwed() {
         DunningDesk desk = Desks.withCase(100, 5);
         Checks.same(100, desk.amount(0));
@@ -79,6 +173,30 @@ final class CasesTest {
         Checks.same(0, desk.amount(0));
     }
 
+    @Says("Pauses a case from this day on.")
+    static void promise04PausesFromThisDayOn() {
+        DunningDesk desk = Desks.withCase(100, 20);
+        desk.open(100, 20);
+        desk.pass(20);
+        Checks.same(22, desk.pause(0, 2));
+        Checks.same(1, desk.pass(1));
+        Checks.same(0, desk.withKey(1010));
+        Checks.same(1, desk.pass(1));
+        Checks.same(1, desk.withKey(1000));
+    }
+
+    @Says("Returns the day until which it is paused,")
+    static void promise04TellsTheDayUntilWhichItIsPaused() {
+        DunningDesk desk = Desks.withCases(2);
+        Checks.same(1, desk.pause(0, 1));
+        Checks.same(60, desk.pause(1, 60));
+        Desks.passTo(desk, 50);
+        Checks.same(51, desk.pause(0, 1));
+        Checks.same(110, desk.pause(0, 60));
+        Checks.same(110, desk.nextReminder(0));
+    }
+
+    @Says("which is never earlier than before.")
     static void promise04PauseEndsLaterNeverEarlier() {
         DunningDesk desk = Desks.withCase(100, 5);
         desk.pass(2);
@@ -96,7 +214,7 @@ final class CasesTest {
         desk.open(100, 0);
         Checks.same(4, desk.pause(0, 4));
         Checks.same(1, desk.pass(3));
-        Checks.refused(java.util.NoSuchElementException.class, () -> desk.withKey(1000));
+        Checks.refused(NoSuchElementException.class, () -> desk.withKey(1000));
         Checks.same(1, desk.pass(1));
         Checks.same(1, desk.withKey(1000));
     }
@@ -110,6 +228,30 @@ final class CasesTest {
         Checks.same(1059, desk.pause(0, 60));
     }
 
+    @Says("Lets a case wait for a note.")
+    static void promise05CaseWaitsUntilANoteIsFinished() {
+        DunningDesk desk = Desks.withCase(100, 0);
+        desk.awaitNote(0);
+        Checks.refused(NoSuchElementException.class, () -> desk.nextReminder(0));
+        int note = Desks.postedAndTaken(desk, 1, 'n', 0, 0);
+        Checks.same(0, desk.pass(1));
+        Checks.yes(desk.finish(note));
+        Checks.same(2, desk.nextReminder(0));
+        Checks.same(1, desk.pass(1));
+    }
+
+    static void promise05WaitingIsOfOneCaseAlone() {
+        DunningDesk desk = Desks.withCases(8);
+        for (int number = 7; number >= 0; number--) {
+            Checks.no(desk.awaitNote(number));
+        }
+        Checks.yes(Desks.postedAndFinished(desk, 1, 'n', 3, 0));
+        for (int number = 0; number < 8; number++) {
+            Checks.same(number != 3, desk.awaitNote(number));
+        }
+    }
+
+    @Says("Returns whether it waited for one before.")
     static void promise05AwaitNoteTellsWhetherItWaited() {
         DunningDesk desk = Desks.withCase(100, 0);
         Checks.no(desk.awaitNote(0));
@@ -121,6 +263,31 @@ final class CasesTest {
         Checks.same(1, desk.pass(1));
     }
 
+    @Says("Returns the number of letters of a case that were sent, as it is kept.")
+    static void promise06LettersOfEachCase() {
+        DunningDesk desk = Desks.withCase(100, 0);
+        desk.open(100, 8);
+        desk.open(100, 999);
+        Checks.same(1, desk.pass(1));
+        Checks.yes(Desks.reminded(desk, 0, 0));
+        Checks.same(2, desk.pass(8));
+        Checks.yes(Desks.reminded(desk, 0, 1));
+        Checks.yes(Desks.reminded(desk, 1, 0));
+        Checks.same(2, desk.letters(0));
+        Checks.same(1, desk.letters(1));
+        Checks.same(0, desk.letters(2));
+    }
+
+    static void promise06LettersStayWhenTheCaseIsPaid() {
+        DunningDesk desk = Desks.withCase(100, 0);
+        desk.pass(1);
+        Checks.yes(Desks.reminded(desk, 0, 0));
+        Checks.yes(Desks.postedAndFinished(desk, 1, 'p', 0, 100));
+        Checks.same(1, desk.letters(0));
+        Checks.same(1, desk.lettersByMessages(0));
+    }
+
+    @Says("Returns the number of letters.")
     static void promise06LettersAreCountedUpToThree() {
         DunningDesk desk = Desks.withCase(100, 0);
         for (int step = 0; step < 3; step++) {
@@ -134,6 +301,7 @@ final class CasesTest {
         Checks.same(0, desk.pass(30));
     }
 
+    @Says("Returns the same number, found from all messages")
     static void promise07LettersFromMessagesAreTheSame() {
         DunningDesk desk = Desks.withCase(100, 0);
         desk.open(100, 999);
@@ -147,6 +315,7 @@ final class CasesTest {
         }
     }
 
+    @Says("in the order in which they were done.")
     static void promise07OrderInWhichMessagesWereDoneCounts() {
         DunningDesk paidFirst = Desks.withCase(100, 0);
         paidFirst.pass(1);
@@ -167,6 +336,7 @@ final class CasesTest {
         Checks.same(1, sentFirst.lettersByMessages(0));
     }
 
+    @Says("Returns the number of letters.")
     static void promise07PaymentsOfAPartLeaveTheCaseOpen() {
         DunningDesk desk = Desks.withCase(100, 0);
         Desks.postedAndFinished(desk, 1, 'p', 0, 60);
@@ -188,6 +358,24 @@ final class CasesTest {
         Checks.same(2, desk.letters(0));
     }
 
+    @Says("Returns on which day the next reminder of a case would be posted if only days passed,")
+    static void promise08NextReminderComesOnItsDay() {
+        int[] dues = {0, 3, 10, 29};
+        for (int due : dues) {
+            for (int pause = 1; pause <= 60; pause += 13) {
+                DunningDesk desk = new DunningDesk();
+                desk.pass(2);
+                desk.open(100, due);
+                desk.pause(0, pause);
+                int next = desk.nextReminder(0);
+                Checks.same(0, Desks.passTo(desk, next - 1));
+                Checks.same(1, desk.pass(1));
+                Checks.same(next, desk.readyAt(0));
+            }
+        }
+    }
+
+    @Says("the greatest of the next day,")
     static void promise08NextReminderIsTheGreatestOfThreeDays() {
         DunningDesk desk = Desks.withCase(100, 10);
         Checks.same(11, desk.nextReminder(0));
@@ -206,6 +394,41 @@ final class CasesTest {
         Checks.same(22, late.nextReminder(0));
     }
 
+    @Says("and the day until which it is paused.")
+    static void promise08NotBeforeTheEndOfThePause() {
+        DunningDesk desk = Desks.withCase(100, 10);
+        desk.pause(0, 10);
+        Checks.same(11, desk.nextReminder(0));
+        desk.pause(0, 11);
+        Checks.same(11, desk.nextReminder(0));
+        desk.pause(0, 60);
+        Checks.same(60, desk.nextReminder(0));
+        Desks.passTo(desk, 58);
+        Checks.same(60, desk.nextReminder(0));
+        Checks.same(0, desk.pass(1));
+        Checks.same(60, desk.nextReminder(0));
+    }
+
+    @Says("Returns the day, also beyond 999.")
+    static void promise08NextReminderMayLieBeyondTheLastDay() {
+        Checks.same(1000, Desks.withCase(100, 999).nextReminder(0));
+        DunningDesk desk = Desks.withCase(100, 990);
+        desk.open(100, 998);
+        desk.open(100, 999);
+        Desks.passTo(desk, 991);
+        Checks.yes(Desks.reminded(desk, 0, 0));
+        Checks.same(998, desk.nextReminder(0));
+        Desks.passTo(desk, 998);
+        Checks.yes(Desks.reminded(desk, 0, 1));
+        Checks.same(1005, desk.nextReminder(0));
+        Checks.same(999, desk.nextReminder(1));
+        Checks.same(1, desk.pass(1));
+        Checks.same(1000, desk.nextReminder(2));
+        desk.pause(2, 60);
+        Checks.same(1059, desk.nextReminder(2));
+    }
+
+    @Says("the due day plus 7 times its letters, plus 1,")
     static void promise08SevenDaysForEachLetter() {
         DunningDesk desk = Desks.withCase(100, 999);
         Checks.same(1000, desk.nextReminder(0));
@@ -213,27 +436,28 @@ final class CasesTest {
         for (int step = 0; step < 3; step++) {
             Checks.same(3 + 7 * step, sent.nextReminder(0));
             Checks.same(1, sent.pass(step == 0 ? 3 : 7));
-            Checks.refused(java.util.NoSuchElementException.class, () -> sent.nextReminder(0));
+            Checks.refused(NoSuchElementException.class, () -> sent.nextReminder(0));
             sent.take(0, 0);
             sent.finish(step);
         }
-        Checks.refused(java.util.NoSuchElementException.class, () -> sent.nextReminder(0));
+        Checks.refused(NoSuchElementException.class, () -> sent.nextReminder(0));
     }
 
     static void promise08NoneIfClosedWaitingOrPosted() {
         DunningDesk closed = Desks.withCase(5, 10);
         Desks.postedAndFinished(closed, 1, 'p', 0, 5);
-        Checks.refused(java.util.NoSuchElementException.class, () -> closed.nextReminder(0));
+        Checks.refused(NoSuchElementException.class, () -> closed.nextReminder(0));
         DunningDesk waits = Desks.withCase(5, 10);
         waits.awaitNote(0);
-        Checks.refused(java.util.NoSuchElementException.class, () -> waits.nextReminder(0));
+        Checks.refused(NoSuchElementException.class, () -> waits.nextReminder(0));
         DunningDesk dead = Desks.withCase(5, 0);
         dead.pass(1);
         Desks.kill(dead, 0, 0);
         Checks.same('x', dead.state(0));
-        Checks.refused(java.util.NoSuchElementException.class, () -> dead.nextReminder(0));
+        Checks.refused(NoSuchElementException.class, () -> dead.nextReminder(0));
     }
 
+    @Says("and there was always room for messages:")
     static void promise08RoomForMessagesDoesNotCount() {
         DunningDesk desk = Desks.withPayments(80);
         desk.open(40, 0);

@@ -5,6 +5,7 @@ final class DaysTest {
     private DaysTest() {
     }
 
+    @Says("Lets days pass.")
     static void promise23DaysPassUpToTheLast() {
         DunningDesk desk = new DunningDesk();
         for (int i = 0; i < 33; i++) {
@@ -30,6 +31,7 @@ final class DaysTest {
         Checks.same(0, desk.pass(30));
     }
 
+    @Says("Returns the number of reminders that are posted.")
     static void promise23RemindersByRisingCases() {
         DunningDesk desk = new DunningDesk();
         for (int number = 0; number < 8; number++) {
@@ -158,9 +160,35 @@ final class DaysTest {
             posted += daily.pass(1);
         }
         Checks.same(posted, once.pass(30));
-        Checks.same(Desks.seen(daily, 4, 9), Desks.seen(once, 4, 9));
+        Checks.same(Looks.seen(daily), Looks.seen(once));
     }
 
+    static void promise23CountsTheRemindersOfAllItsDays() {
+        DunningDesk desk = new DunningDesk();
+        for (int number = 0; number < 8; number++) {
+            desk.open(10, 4 * number);
+        }
+        Checks.same(8, desk.pass(29));
+        DunningDesk one = new DunningDesk();
+        for (int number = 0; number < 8; number++) {
+            one.open(10, 4 * number);
+        }
+        Checks.same(7, one.pass(28));
+        Checks.same(1, one.pass(1));
+        Checks.same(0, one.pass(1));
+    }
+
+    static void promise23RefusedOnTheLastDay() {
+        DunningDesk desk = Desks.withCase(5, 999);
+        Desks.passTo(desk, 999);
+        for (int days : new int[] {1, 2, 30}) {
+            Checks.refused(IllegalArgumentException.class, () -> desk.pass(days));
+        }
+        Checks.same(999, desk.day());
+        Checks.same(0, desk.count('w'));
+    }
+
+    @Says("Returns the day.")
     static void promise24DayStartsAtZeroAndGrows() {
         DunningDesk desk = new DunningDesk();
         Checks.same(0, desk.day());
@@ -170,6 +198,7 @@ final class DaysTest {
         Checks.same(31, desk.day());
     }
 
+    @Says("Returns the number of messages in a state.")
     static void promise25CountsOfEachState() {
         DunningDesk desk = Desks.mixed();
         Checks.same(1, desk.count('h'));
@@ -179,6 +208,42 @@ final class DaysTest {
         Checks.same(1, desk.count('x'));
     }
 
+    @Says("Returns the number of messages.")
+    static void promise25CountsFromNoneToAll() {
+        DunningDesk none = new DunningDesk();
+        DunningDesk waiting = Desks.withPayments(80);
+        DunningDesk held = new DunningDesk();
+        for (int message = 0; message < 80; message++) {
+            held.post(0, message, 'n', 7, 0, 0);
+        }
+        for (char state : "hwtdx".toCharArray()) {
+            Checks.same(0, none.count(state));
+            Checks.same(state == 'w' ? 80 : 0, waiting.count(state));
+            Checks.same(state == 'h' ? 80 : 0, held.count(state));
+        }
+    }
+
+    @Says("Returns the share of the messages that are done.")
+    static void promise26OnlyDoneOnesCount() {
+        Checks.same(2.0f / 8.0f, Desks.mixed().doneShare());
+        for (char state : "hwtx".toCharArray()) {
+            Checks.same(0.0f, Desks.withMessageIn(state, 0).doneShare());
+        }
+        Checks.same(1.0f, Desks.withMessageIn('d', 0).doneShare());
+    }
+
+    @Says("Returns their number divided by that of all messages,")
+    static void promise26ShareOfAFullDesk() {
+        DunningDesk desk = Desks.withPayments(80);
+        for (int message = 0; message < 80; message++) {
+            Checks.same(message / 80.0f, desk.doneShare());
+            desk.take(0, 1);
+            desk.finish(message);
+        }
+        Checks.same(1.0f, desk.doneShare());
+    }
+
+    @Says("both converted to float.")
     static void promise26ShareInFloats() {
         DunningDesk desk = Desks.withPayments(3);
         Checks.same(0.0f, desk.doneShare());
@@ -197,6 +262,18 @@ final class DaysTest {
         Checks.same(0.0f, held.doneShare());
     }
 
+    @Says("Returns the mean amount of the open cases.")
+    static void promise27OnlyOpenCasesCount() {
+        DunningDesk desk = Desks.withPaidCase(999);
+        desk.open(7, 999);
+        Checks.same(7.0, desk.meanAmount());
+        desk.open(8, 999);
+        Checks.same(7.5, desk.meanAmount());
+        Checks.yes(Desks.postedAndFinished(desk, 1, 'p', 1, 7));
+        Checks.same(8.0, desk.meanAmount());
+    }
+
+    @Says("both converted to double.")
     static void promise27MeanOfOpenCasesInDoubles() {
         DunningDesk desk = new DunningDesk();
         Checks.refused(ArithmeticException.class, desk::meanAmount);
@@ -214,6 +291,7 @@ final class DaysTest {
         Checks.refused(ArithmeticException.class, desk::meanAmount);
     }
 
+    @Says("Returns the sum of their amounts divided by their number,")
     static void promise27MeanOfEightCases() {
         DunningDesk desk = new DunningDesk();
         for (int number = 0; number < 8; number++) {

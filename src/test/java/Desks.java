@@ -1,6 +1,8 @@
-import java.util.StringJoiner;
+import java.util.ArrayList;
+import java.util.List;
+import java.util.function.Supplier;
 
-/** Desks in states that several tests start from, and one text of all that can be seen of a desk. */
+/** Desks in states that several tests start from, and deeds that several tests do. */
 final class Desks {
     private Desks() {
     }
@@ -12,6 +14,23 @@ final class Desks {
         return desk;
     }
 
+    /** One case that owed 10 and is paid, by message 0, whose key is 999. */
+    static DunningDesk withPaidCase(int due) {
+        DunningDesk desk = withCase(10, due);
+        Checks.yes(postedAndFinished(desk, 999, 'p', 0, 10));
+        Checks.same(0, desk.amount(0));
+        return desk;
+    }
+
+    /** Cases 0, 1, .. owe 10, 11, .. and are due on the days 100, 101, .. */
+    static DunningDesk withCases(int cases) {
+        DunningDesk desk = new DunningDesk();
+        for (int number = 0; number < cases; number++) {
+            Checks.same(number, desk.open(10 + number, 100 + number));
+        }
+        return desk;
+    }
+
     /** Case 0 owes 100 and is due on day 999; messages 0, 1, .. with keys 0, 1, .. pay 1 each, in queue 1. */
     static DunningDesk withPayments(int messages) {
         DunningDesk desk = withCase(100, 999);
@@ -19,6 +38,40 @@ final class Desks {
             desk.post(1, message, 'p', 0, 1, 0);
         }
         return desk;
+    }
+
+    /** As many messages as are needed to make the last one this number, and that in this state, in queue 2. */
+    static DunningDesk withMessageIn(char state, int message) {
+        DunningDesk desk = withPayments(message);
+        Checks.same(message, desk.post(2, 999, 'p', state == 'h' ? 7 : 0, 1, 0));
+        if (state == 't' || state == 'd') {
+            desk.take(3, 2);
+        }
+        if (state == 'd') {
+            desk.finish(message);
+        }
+        if (state == 'x') {
+            kill(desk, 2, message);
+        }
+        Checks.same(state, desk.state(message));
+        return desk;
+    }
+
+    /** Lets days pass up to this one; tells how many reminders were posted. */
+    static int passTo(DunningDesk desk, int day) {
+        int posted = 0;
+        for (int left = day - desk.day(); left > 0; left -= 30) {
+            posted += desk.pass(Math.min(30, left));
+        }
+        Checks.same(day, desk.day());
+        return posted;
+    }
+
+    /** Lets clerk 3 take a reminder, which must be the first one in queue 0, and finish it. */
+    static boolean reminded(DunningDesk desk, int number, int step) {
+        int message = desk.withKey(1000 + 10 * number + step);
+        Checks.same(message, desk.take(3, 0));
+        return desk.finish(message);
     }
 
     static int postedAndTaken(DunningDesk desk, int key, char kind, int number, int value) {
@@ -43,16 +96,17 @@ final class Desks {
     }
 
     /**
-     * Something of everything, on day 6: case 0 owes 500, case 1 is paid, case 2 has one letter, is
-     * paused until day 40 and waits for a note. Message 0 is done, 1 dead, 2 taken by clerk 1, 3 waits
-     * and is ready, 4 is held for case 5, 5 is a reminder that is done, 6 a reminder that clerk 1 has
-     * taken, 7 waits for a later day.
+     * Something of everything, on day 6: case 0 owes 500 and gets its first reminder tomorrow, case 1 is
+     * paid, case 2 has one letter, is paused until day 40 and waits for a note, and case 3 has a reminder.
+     * Message 0 is done, 1 dead, 2 taken by clerk 1, 3 waits and is ready, 4 is held for case 5, 5 is a
+     * reminder that is done, 6 a reminder that clerk 1 has taken, 7 waits for a later day.
      */
     static DunningDesk mixed() {
         DunningDesk desk = new DunningDesk();
-        desk.open(500, 3);
+        desk.open(500, 6);
         desk.open(10, 300);
         desk.open(700, 0);
+        desk.open(300, 3);
         desk.post(1, 20, 'p', 1, 10, 0);
         Checks.same(0, desk.take(0, 1));
         Checks.yes(desk.finish(0));
@@ -64,7 +118,7 @@ final class Desks {
         Checks.same(5, desk.withKey(1020));
         Checks.same(5, desk.take(2, 0));
         Checks.yes(desk.finish(5));
-        Checks.same(6, desk.withKey(1000));
+        Checks.same(6, desk.withKey(1030));
         Checks.same(6, desk.take(1, 0));
         Checks.same(7, desk.post(1, 25, 'p', 2, 50, 9));
         Checks.same(2, desk.take(1, 1));
@@ -73,38 +127,23 @@ final class Desks {
         return desk;
     }
 
-    /** All that the desk tells of its first cases and messages, one line. */
-    static String seen(DunningDesk desk, int cases, int messages) {
-        StringJoiner seen = new StringJoiner(" ");
-        for (int i = 0; i < cases; i++) {
-            int number = i;
-            seen.add(Checks.told(() -> desk.amount(number)));
-            seen.add(Checks.told(() -> desk.letters(number)));
-            seen.add(Checks.told(() -> desk.lettersByMessages(number)));
-            seen.add(Checks.told(() -> desk.nextReminder(number)));
-        }
-        for (int i = 0; i < messages; i++) {
-            int message = i;
-            seen.add(Checks.told(() -> desk.state(message)));
-            seen.add(Checks.told(() -> desk.kind(message)));
-            seen.add(Checks.told(() -> desk.tries(message)));
-            seen.add(Checks.told(() -> desk.readyAt(message)));
-            seen.add(Checks.told(() -> desk.clerk(message)));
-        }
-        for (int queue = 0; queue < 3; queue++) {
-            seen.add("queue");
-            int ready = desk.ready(queue);
-            for (int place = 0; place < ready; place++) {
-                seen.add(String.valueOf(desk.readyAtPlace(queue, place)));
-            }
-        }
-        for (int clerk = 0; clerk < 4; clerk++) {
-            seen.add(String.valueOf(desk.has(clerk)));
-        }
+    /** Desks in which each state of cases and messages is found, of the first and the last ones, too. */
+    static List<Supplier<DunningDesk>> ofAllKinds() {
+        List<Supplier<DunningDesk>> desks = new ArrayList<>();
+        desks.add(DunningDesk::new);
+        desks.add(Desks::mixed);
+        desks.add(() -> withPaidCase(5));
+        desks.add(() -> withCase(100, 0));
+        desks.add(() -> {
+            DunningDesk waiting = withCases(2);
+            waiting.awaitNote(0);
+            waiting.pause(1, 60);
+            return waiting;
+        });
         for (char state : "hwtdx".toCharArray()) {
-            seen.add(String.valueOf(desk.count(state)));
+            desks.add(() -> withMessageIn(state, 0));
+            desks.add(() -> withMessageIn(state, 79));
         }
-        seen.add(Checks.told(desk::doneShare)).add(Checks.told(desk::meanAmount));
-        return seen.add("day " + desk.day()).toString();
+        return desks;
     }
 }

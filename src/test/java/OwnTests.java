@@ -5,14 +5,16 @@ import java.util.Comparator;
 
 /** Runs every test of the project: each static method without arguments of the classes below. */
 public final class OwnTests {
-    private static final Class<?>[] CLASSES = {
-        CasesTest.class, MessagesTest.class, ClerksTest.class, DaysTest.class,
-        RefusalsTest.class, FaceTest.class, LanguageTest.class, ModelTest.class,
+    static final Class<?>[] CLASSES = {
+        TermsTest.class, CasesTest.class, MessagesTest.class, ClerksTest.class, DaysTest.class,
+        RangesTest.class, RefusalsTest.class, DocumentTest.class, FaceTest.class, LanguageTest.class,
+        ModelTest.class,
     };
-    private static final int PROMISES = 27;
+    static final int PROMISES = 27;
 
-    /** Where the class's source lies, for the tests that read it. */
+    /** Where the class's source and its document lie, for the tests that read them. */
     static String source = "src/main/java/DunningDesk.java";
+    static String document = "../shared/DOC.md";
 
     private OwnTests() {
     }
@@ -21,6 +23,9 @@ public final class OwnTests {
         if (args.length > 0) {
             source = args[0];
         }
+        if (args.length > 1) {
+            document = args[1];
+        }
         int passed = 0;
         int failed = 0;
         int[] perPromise = new int[PROMISES + 1];
@@ -28,6 +33,7 @@ public final class OwnTests {
             for (Method test : testsOf(tests)) {
                 perPromise[promiseOf(test)]++;
                 if (passes(test)) {
+                    System.out.println("PASSED " + nameOf(test));
                     passed++;
                 } else {
                     failed++;
@@ -37,14 +43,14 @@ public final class OwnTests {
         for (int promise = 1; promise <= PROMISES; promise++) {
             if (perPromise[promise] == 0) {
                 failed++;
-                System.out.println("promise " + promise + " has no test");
+                System.out.println("FAILED promise " + promise + " has no test");
             }
         }
         System.out.println("own tests: " + passed + " passed, " + failed + " failed");
         System.exit(failed == 0 ? 0 : 1);
     }
 
-    private static Method[] testsOf(Class<?> tests) {
+    static Method[] testsOf(Class<?> tests) {
         return Arrays.stream(tests.getDeclaredMethods())
             .filter(test -> test.getParameterCount() == 0 && test.getReturnType() == void.class)
             .filter(test -> !test.isSynthetic() && !java.lang.reflect.Modifier.isPrivate(test.getModifiers()))
@@ -58,14 +64,17 @@ public final class OwnTests {
         return name.startsWith("promise") ? Integer.parseInt(name.substring(7, 9)) : 0;
     }
 
+    private static String nameOf(Method test) {
+        return test.getDeclaringClass().getSimpleName() + "." + test.getName();
+    }
+
     private static boolean passes(Method test) {
         try {
             test.invoke(null);
             return true;
         } catch (InvocationTargetException e) {
             Throwable cause = e.getCause();
-            System.out.println("FAILED " + test.getDeclaringClass().getSimpleName() + "." + test.getName()
-                + ": " + cause);
+            System.out.println("FAILED " + nameOf(test) + ": " + cause);
             for (StackTraceElement at : cause.getStackTrace()) {
                 if (at.getClassName().endsWith("Test")) {
                     System.out.println("    at line " + at.getLineNumber() + " of " + at.getFileName());

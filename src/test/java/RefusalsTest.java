@@ -1,10 +1,11 @@
 import java.util.NoSuchElementException;
+import java.util.function.BiFunction;
 import java.util.function.Function;
 import java.util.function.Supplier;
 
 /** Each exception of each method, which one comes first, and that a refused call leaves no trace. */
 final class RefusalsTest {
-    private static final int[] NO_CASES = {-1, 3, 7, 8, Integer.MIN_VALUE, Integer.MAX_VALUE};
+    private static final int[] NO_CASES = {-1, 4, 7, 8, Integer.MIN_VALUE, Integer.MAX_VALUE};
     private static final int[] NO_MESSAGES = {-1, 8, 79, 80, Integer.MIN_VALUE, Integer.MAX_VALUE};
     private static final int[] NO_QUEUES = {-1, 3, Integer.MIN_VALUE, Integer.MAX_VALUE};
     private static final int[] NO_CLERKS = {-1, 4, Integer.MIN_VALUE, Integer.MAX_VALUE};
@@ -18,35 +19,77 @@ final class RefusalsTest {
         DunningDesk desk = start.get();
         DunningDesk untouched = start.get();
         Checks.refused(due, () -> call.apply(desk));
-        Checks.same(Desks.seen(untouched, 4, 9), Desks.seen(desk, 4, 9));
-        Checks.same(later(untouched), later(desk));
+        Checks.same(Looks.seen(untouched), Looks.seen(desk));
+        Checks.same(Looks.later(untouched), Looks.later(desk));
     }
 
     private static void refused(Class<? extends RuntimeException> due, Function<DunningDesk, Object> call) {
         refused(due, Desks::mixed, call);
     }
 
-    private static String later(DunningDesk desk) {
-        StringBuilder told = new StringBuilder();
-        told.append(Checks.told(() -> desk.pass(4))).append(' ').append(Desks.seen(desk, 4, 9));
-        told.append(Checks.told(() -> desk.open(60, 1))).append(Checks.told(() -> desk.pass(7)));
-        for (int clerk = 0; clerk < 4; clerk++) {
-            int taker = clerk;
-            told.append(' ').append(Checks.told(() -> desk.take(taker, taker % 3)));
+    /** On the mixed desk and on an empty one. */
+    private static void noCase(BiFunction<DunningDesk, Integer, Object> call) {
+        for (int number : NO_CASES) {
+            refused(IndexOutOfBoundsException.class, desk -> call.apply(desk, number));
         }
-        return told.append(' ').append(Desks.seen(desk, 4, 9)).toString();
+        refused(IndexOutOfBoundsException.class, DunningDesk::new, desk -> call.apply(desk, 0));
+        refused(IndexOutOfBoundsException.class, RefusalsTest::fullOfCases, desk -> call.apply(desk, 8));
+    }
+
+    /** On the mixed desk, an empty one and a full one. */
+    private static void noMessage(BiFunction<DunningDesk, Integer, Object> call) {
+        for (int message : NO_MESSAGES) {
+            refused(IndexOutOfBoundsException.class, desk -> call.apply(desk, message));
+        }
+        refused(IndexOutOfBoundsException.class, DunningDesk::new, desk -> call.apply(desk, 0));
+        refused(IndexOutOfBoundsException.class, RefusalsTest::fullOfMessages, desk -> call.apply(desk, 80));
+    }
+
+    /** On the messages of the mixed desk that are in another state. */
+    private static void inAnotherState(char state, Class<? extends RuntimeException> due,
+            BiFunction<DunningDesk, Integer, Object> call) {
+        for (int i = 0; i < 8; i++) {
+            int message = i;
+            if (Desks.mixed().state(message) == state) {
+                Checks.taken(() -> call.apply(Desks.mixed(), message));
+            } else {
+                refused(due, desk -> call.apply(desk, message));
+            }
+        }
+    }
+
+    /** Case 0 is paid; a message waits in queue 1, another one is taken. */
+    private static DunningDesk paid() {
+        DunningDesk desk = Desks.withPaidCase(5);
+        desk.post(1, 1, 'n', 0, 0, 0);
+        desk.post(1, 2, 'n', 0, 0, 0);
+        Checks.same(1, desk.take(2, 1));
+        return desk;
+    }
+
+    /** Case 0 gets its first reminder tomorrow; a message waits in queue 1, another one is taken. */
+    private static DunningDesk due() {
+        DunningDesk desk = Desks.withCase(100, 0);
+        desk.post(1, 1, 'n', 0, 0, 0);
+        desk.post(1, 2, 'n', 0, 0, 0);
+        Checks.same(0, desk.take(2, 1));
+        return desk;
     }
 
     private static DunningDesk fullOfCases() {
         DunningDesk desk = Desks.mixed();
-        for (int number = 3; number < 8; number++) {
+        for (int number = 4; number < 8; number++) {
             desk.open(100, 50);
         }
         return desk;
     }
 
+    /** Case 1 gets its first reminder when there is room; message 0 is taken. */
     private static DunningDesk fullOfMessages() {
-        return Desks.withPayments(80);
+        DunningDesk desk = Desks.withPayments(80);
+        Checks.same(1, desk.open(100, 0));
+        Checks.same(0, desk.take(3, 1));
+        return desk;
     }
 
     private static DunningDesk lastDays() {
@@ -58,65 +101,124 @@ final class RefusalsTest {
         return desk;
     }
 
-    static void promise02Open() {
-        int[] noAmounts = {0, -1, 10000, Integer.MIN_VALUE, Integer.MAX_VALUE};
-        int[] noDays = {-1, 1000, Integer.MIN_VALUE, Integer.MAX_VALUE};
-        for (int amount : noAmounts) {
+    @Says("Throws `IllegalArgumentException` if a number is out of range")
+    static void promise02NumberOutOfRange() {
+        for (int amount : new int[] {0, -1, 10000, Integer.MIN_VALUE, Integer.MAX_VALUE}) {
             refused(IllegalArgumentException.class, desk -> desk.open(amount, 5));
             refused(IllegalArgumentException.class, RefusalsTest::fullOfCases, desk -> desk.open(amount, 5));
         }
-        for (int due : noDays) {
+        for (int due : new int[] {-1, 1000, Integer.MIN_VALUE, Integer.MAX_VALUE}) {
             refused(IllegalArgumentException.class, desk -> desk.open(5, due));
             refused(IllegalArgumentException.class, RefusalsTest::fullOfCases, desk -> desk.open(5, due));
         }
+    }
+
+    @Says("Throws `IllegalStateException` if there are 8 cases")
+    static void promise02EightCases() {
         refused(IllegalStateException.class, RefusalsTest::fullOfCases, desk -> desk.open(5, 5));
+        Checks.same(7, Desks.withCases(7).open(5, 5));
+        DunningDesk paid = Desks.withCases(8);
+        Checks.yes(Desks.postedAndFinished(paid, 1, 'p', 0, 10));
+        Checks.refused(IllegalStateException.class, () -> paid.open(5, 5));
     }
 
-    static void promise03Amount() {
-        for (int number : NO_CASES) {
-            refused(IndexOutOfBoundsException.class, desk -> desk.amount(number));
-        }
+    @Says("Throws `IndexOutOfBoundsException` if there is no such case")
+    static void promise03NoSuchCase() {
+        noCase(DunningDesk::amount);
     }
 
-    static void promise04Pause() {
-        int[] noDays = {0, -1, 61, Integer.MIN_VALUE, Integer.MAX_VALUE};
-        for (int number : NO_CASES) {
-            refused(IndexOutOfBoundsException.class, desk -> desk.pause(number, 5));
-            refused(IndexOutOfBoundsException.class, desk -> desk.pause(number, 0));
-        }
-        for (int days : noDays) {
-            refused(IllegalArgumentException.class, desk -> desk.pause(0, days));
-            refused(IllegalArgumentException.class, desk -> desk.pause(1, days));
-        }
-        refused(IllegalStateException.class, desk -> desk.pause(1, 5));
+    @Says("Throws `IndexOutOfBoundsException` if there is no such case")
+    static void promise04NoSuchCase() {
+        noCase((desk, number) -> desk.pause(number, 5));
+        noCase((desk, number) -> desk.pause(number, 0));
     }
 
-    static void promise05AwaitNote() {
-        for (int number : NO_CASES) {
-            refused(IndexOutOfBoundsException.class, desk -> desk.awaitNote(number));
-        }
-        refused(IllegalStateException.class, desk -> desk.awaitNote(1));
-    }
-
-    static void promise06Letters() {
-        for (int number : NO_CASES) {
-            refused(IndexOutOfBoundsException.class, desk -> desk.letters(number));
+    @Says("Throws `IllegalArgumentException` if the number of days is out of range")
+    static void promise04DaysOutOfRange() {
+        for (int days : new int[] {0, -1, 61, Integer.MIN_VALUE, Integer.MAX_VALUE}) {
+            refused(IllegalArgumentException.class, RefusalsTest::due, desk -> desk.pause(0, days));
+            refused(IllegalArgumentException.class, RefusalsTest::paid, desk -> desk.pause(0, days));
         }
     }
 
-    static void promise07LettersByMessages() {
-        for (int number : NO_CASES) {
-            refused(IndexOutOfBoundsException.class, desk -> desk.lettersByMessages(number));
-        }
+    @Says("Throws `IllegalStateException` if it is not open")
+    static void promise04CaseNotOpen() {
+        refused(IllegalStateException.class, RefusalsTest::paid, desk -> desk.pause(0, 1));
+        refused(IllegalStateException.class, RefusalsTest::paid, desk -> desk.pause(0, 60));
     }
 
-    static void promise08NextReminder() {
-        for (int number : NO_CASES) {
-            refused(IndexOutOfBoundsException.class, desk -> desk.nextReminder(number));
+    @Says("Throws `IndexOutOfBoundsException` if there is no such case")
+    static void promise05NoSuchCase() {
+        noCase(DunningDesk::awaitNote);
+    }
+
+    @Says("Throws `IllegalStateException` if it is not open")
+    static void promise05CaseNotOpen() {
+        refused(IllegalStateException.class, RefusalsTest::paid, desk -> desk.awaitNote(0));
+    }
+
+    @Says("Throws `IndexOutOfBoundsException` if there is no such case")
+    static void promise06NoSuchCase() {
+        noCase(DunningDesk::letters);
+    }
+
+    @Says("Throws `IndexOutOfBoundsException` if there is no such case")
+    static void promise07NoSuchCase() {
+        noCase(DunningDesk::lettersByMessages);
+    }
+
+    @Says("Throws `IndexOutOfBoundsException` if there is no such case")
+    static void promise08NoSuchCase() {
+        noCase(DunningDesk::nextReminder);
+    }
+
+    @Says("Throws `NoSuchElementException` if none would be, as it is not open,")
+    static void promise08CaseNotOpen() {
+        refused(NoSuchElementException.class, RefusalsTest::paid, desk -> desk.nextReminder(0));
+        DunningDesk owesOne = Desks.withCase(2, 5);
+        Desks.postedAndFinished(owesOne, 1, 'p', 0, 1);
+        Checks.same(6, owesOne.nextReminder(0));
+    }
+
+    @Says("waits for a note,")
+    static void promise08CaseWaitsForANote() {
+        refused(NoSuchElementException.class, RefusalsTest::waiting, desk -> desk.nextReminder(0));
+        DunningDesk desk = waiting();
+        Desks.postedAndFinished(desk, 1, 'n', 0, 0);
+        Checks.same(101, desk.nextReminder(0));
+    }
+
+    private static DunningDesk waiting() {
+        DunningDesk desk = Desks.withCases(1);
+        Checks.no(desk.awaitNote(0));
+        return desk;
+    }
+
+    @Says("has 3 letters,")
+    static void promise08CaseHasThreeLetters() {
+        Checks.same(15, reminded(2).nextReminder(0));
+        refused(NoSuchElementException.class, () -> reminded(3), desk -> desk.nextReminder(0));
+    }
+
+    /** Case 0, due on day 0, has this number of letters, each sent on the earliest day. */
+    private static DunningDesk reminded(int letters) {
+        DunningDesk desk = Desks.withCase(100, 0);
+        for (int step = 0; step < letters; step++) {
+            Checks.same(1, desk.pass(step == 0 ? 1 : 7));
+            Checks.yes(Desks.reminded(desk, 0, step));
         }
-        for (int number = 0; number < 3; number++) {
-            int none = number;
-            refused(NoSuchElementException.class, desk -> desk.nextReminder(none));
+        return desk;
+    }
+
+    @Says("or there is a message with the key of its next step")
+    static void promise08NextStepIsPosted() {
+        for (int step = 0; step < 3; step++) {
+            int letters = step;
+            refused(NoSuchElementException.class, () -> {
+                DunningDesk desk = reminded(letters);
+                Checks.same(1, desk.pass(7));
+                return desk;
+            }, desk -> desk.nextReminder(0));
         }
     }
 
@@ -127,9 +229,9 @@ final class RefusalsTest {
             desk -> desk.post(queue, key, kind, number, value, delay));
     }
 
-    static void promise09Post() {
-        int[] keys = {22, 5, 500};
-        for (int key : keys) {
+    @Says("Throws `IllegalArgumentException` if a number is out of range,")
+    static void promise09NumberOutOfRange() {
+        for (int key : new int[] {22, 5, 500}) {
             for (int queue : NO_QUEUES) {
                 postRefused(queue, key, 'p', 0, 1, 0);
             }
@@ -143,152 +245,233 @@ final class RefusalsTest {
             for (int delay : new int[] {-1, 31, Integer.MIN_VALUE, Integer.MAX_VALUE}) {
                 postRefused(1, key, 'p', 0, 1, delay);
             }
-            for (char kind : new char[] {'r', 'P', 'q', 'o', 0, '\uffff'}) {
-                postRefused(1, key, kind, 0, 1, 0);
-            }
         }
         for (int key : new int[] {-1, 1000, 1020, Integer.MIN_VALUE, Integer.MAX_VALUE}) {
             postRefused(1, key, 'p', 0, 1, 0);
         }
-        refused(IllegalStateException.class, RefusalsTest::fullOfMessages,
-            desk -> desk.post(1, 80, 'p', 0, 1, 0));
     }
 
-    static void promise10WithKey() {
-        refused(NoSuchElementException.class, desk -> desk.withKey(19));
-    }
-
-    static void promise11State() {
-        for (int message : NO_MESSAGES) {
-            refused(IndexOutOfBoundsException.class, desk -> desk.state(message));
-        }
-        refused(IndexOutOfBoundsException.class, RefusalsTest::fullOfMessages, desk -> desk.state(80));
-    }
-
-    static void promise12Kind() {
-        for (int message : NO_MESSAGES) {
-            refused(IndexOutOfBoundsException.class, desk -> desk.kind(message));
-        }
-        refused(IndexOutOfBoundsException.class, RefusalsTest::fullOfMessages, desk -> desk.kind(80));
-    }
-
-    static void promise13Tries() {
-        for (int message : NO_MESSAGES) {
-            refused(IndexOutOfBoundsException.class, desk -> desk.tries(message));
-        }
-        refused(IndexOutOfBoundsException.class, RefusalsTest::fullOfMessages, desk -> desk.tries(80));
-    }
-
-    static void promise14ReadyAt() {
-        for (int message : NO_MESSAGES) {
-            refused(IndexOutOfBoundsException.class, desk -> desk.readyAt(message));
-        }
-        for (int message : new int[] {0, 1, 2, 4, 5, 6}) {
-            refused(IllegalStateException.class, desk -> desk.readyAt(message));
+    @Says("or there is no such kind")
+    static void promise09NoSuchKind() {
+        for (int key : new int[] {22, 5, 500}) {
+            for (char kind : new char[] {'r', 'P', 'q', 'o', 'm', 0, '\uffff'}) {
+                postRefused(1, key, kind, 0, 1, 0);
+            }
         }
     }
 
-    static void promise15Ready() {
+    @Says("Throws `IllegalStateException` if there are 80 messages, and none of them has this key")
+    static void promise09EightyMessages() {
+        refused(IllegalStateException.class, RefusalsTest::fullOfMessages, desk -> desk.post(1, 80, 'p', 0, 1, 0));
+        Checks.same(0, fullOfMessages().post(1, 0, 'p', 0, 1, 0));
+        Checks.same(79, fullOfMessages().post(1, 79, 'p', 0, 1, 0));
+        Checks.same(79, Desks.withPayments(79).post(1, 80, 'p', 0, 1, 0));
+        DunningDesk withReminder = Desks.withPayments(79);
+        withReminder.open(5, 0);
+        Checks.same(1, withReminder.pass(1));
+        Checks.refused(IllegalStateException.class, () -> withReminder.post(1, 80, 'p', 0, 1, 0));
+        DunningDesk done = Desks.withPayments(80);
+        done.take(0, 1);
+        done.finish(0);
+        Checks.refused(IllegalStateException.class, () -> done.post(1, 80, 'p', 0, 1, 0));
+        Checks.same(0, done.post(1, 0, 'p', 0, 1, 0));
+    }
+
+    @Says("Throws `NoSuchElementException` if there is none")
+    static void promise10NoSuchKey() {
+        for (int key : new int[] {-1, 0, 19, 26, 1001, 1010, Integer.MIN_VALUE, Integer.MAX_VALUE}) {
+            refused(NoSuchElementException.class, desk -> desk.withKey(key));
+        }
+        refused(NoSuchElementException.class, DunningDesk::new, desk -> desk.withKey(0));
+        refused(NoSuchElementException.class, RefusalsTest::fullOfMessages, desk -> desk.withKey(80));
+    }
+
+    @Says("Throws `IndexOutOfBoundsException` if there is no such message")
+    static void promise11NoSuchMessage() {
+        noMessage(DunningDesk::state);
+    }
+
+    @Says("Throws `IndexOutOfBoundsException` if there is no such message")
+    static void promise12NoSuchMessage() {
+        noMessage(DunningDesk::kind);
+    }
+
+    @Says("Throws `IndexOutOfBoundsException` if there is no such message")
+    static void promise13NoSuchMessage() {
+        noMessage(DunningDesk::tries);
+    }
+
+    @Says("Throws `IndexOutOfBoundsException` if there is no such message")
+    static void promise14NoSuchMessage() {
+        noMessage(DunningDesk::readyAt);
+    }
+
+    @Says("Throws `IllegalStateException` if it does not wait")
+    static void promise14MessageDoesNotWait() {
+        inAnotherState('w', IllegalStateException.class, DunningDesk::readyAt);
+    }
+
+    @Says("Throws `IllegalArgumentException` if there is no such queue")
+    static void promise15NoSuchQueue() {
         for (int queue : NO_QUEUES) {
             refused(IllegalArgumentException.class, desk -> desk.ready(queue));
         }
     }
 
-    static void promise16ReadyAtPlace() {
+    @Says("Throws `IllegalArgumentException` if there is no such queue")
+    static void promise16NoSuchQueue() {
         for (int queue : NO_QUEUES) {
             refused(IllegalArgumentException.class, desk -> desk.readyAtPlace(queue, 0));
             refused(IllegalArgumentException.class, desk -> desk.readyAtPlace(queue, -1));
-        }
-        for (int place : new int[] {-1, 1, 80, Integer.MIN_VALUE, Integer.MAX_VALUE}) {
-            refused(NoSuchElementException.class, desk -> desk.readyAtPlace(1, place));
+            refused(IllegalArgumentException.class, desk -> desk.readyAtPlace(queue, 80));
         }
     }
 
-    static void promise17Take() {
+    @Says("Throws `NoSuchElementException` if there is no such place")
+    static void promise16NoSuchPlace() {
+        Checks.same(3, Desks.mixed().readyAtPlace(1, 0));
+        for (int place : new int[] {-1, 1, 80, Integer.MIN_VALUE, Integer.MAX_VALUE}) {
+            refused(NoSuchElementException.class, desk -> desk.readyAtPlace(1, place));
+        }
+        refused(NoSuchElementException.class, desk -> desk.readyAtPlace(0, 0));
+        refused(NoSuchElementException.class, DunningDesk::new, desk -> desk.readyAtPlace(2, 0));
+        refused(NoSuchElementException.class, RefusalsTest::fullOfMessages, desk -> desk.readyAtPlace(1, 80));
+    }
+
+    @Says("Throws `IllegalArgumentException` if there is no such clerk")
+    static void promise17NoSuchClerk() {
         for (int clerk : NO_CLERKS) {
             refused(IllegalArgumentException.class, desk -> desk.take(clerk, 1));
             refused(IllegalArgumentException.class, desk -> desk.take(clerk, 0));
         }
+    }
+
+    @Says("or no such queue")
+    static void promise17NoSuchQueue() {
         for (int queue : NO_QUEUES) {
             refused(IllegalArgumentException.class, desk -> desk.take(0, queue));
             refused(IllegalArgumentException.class, desk -> desk.take(1, queue));
         }
+    }
+
+    @Says("Throws `IllegalStateException` if the clerk has 2 messages")
+    static void promise17ClerkHasTwoMessages() {
         refused(IllegalStateException.class, desk -> desk.take(1, 1));
         refused(IllegalStateException.class, desk -> desk.take(1, 0));
+        DunningDesk one = Desks.withPayments(2);
+        one.take(1, 1);
+        Checks.same(1, one.take(1, 1));
+    }
+
+    @Says("Throws `NoSuchElementException` if none waits and is ready")
+    static void promise17NoneWaitsAndIsReady() {
         refused(NoSuchElementException.class, desk -> desk.take(0, 0));
         refused(NoSuchElementException.class, desk -> desk.take(3, 2));
+        refused(NoSuchElementException.class, DunningDesk::new, desk -> desk.take(3, 2));
+        refused(NoSuchElementException.class, RefusalsTest::withLaterOne, desk -> desk.take(1, 1));
+        DunningDesk desk = withLaterOne();
+        desk.pass(1);
+        Checks.same(0, desk.take(1, 1));
     }
 
-    static void promise18Finish() {
-        for (int message : NO_MESSAGES) {
-            refused(IndexOutOfBoundsException.class, desk -> desk.finish(message));
-        }
-        for (int message : new int[] {0, 1, 3, 4, 5, 7}) {
-            refused(IllegalStateException.class, desk -> desk.finish(message));
-        }
+    private static DunningDesk withLaterOne() {
+        DunningDesk desk = Desks.withCase(100, 999);
+        desk.post(1, 5, 'n', 0, 0, 1);
+        return desk;
     }
 
-    static void promise19HandBack() {
-        for (int message : NO_MESSAGES) {
-            refused(IndexOutOfBoundsException.class, desk -> desk.handBack(message));
-        }
-        for (int message : new int[] {0, 1, 3, 4, 5, 7}) {
-            refused(IllegalStateException.class, desk -> desk.handBack(message));
-        }
+    @Says("Throws `IndexOutOfBoundsException` if there is no such message")
+    static void promise18NoSuchMessage() {
+        noMessage(DunningDesk::finish);
     }
 
-    static void promise20Revive() {
-        for (int message : NO_MESSAGES) {
-            refused(IndexOutOfBoundsException.class, desk -> desk.revive(message));
-        }
-        for (int message : new int[] {0, 2, 3, 4, 5, 6, 7}) {
-            refused(IllegalStateException.class, desk -> desk.revive(message));
-        }
+    @Says("Throws `IllegalStateException` if it is not taken")
+    static void promise18MessageNotTaken() {
+        inAnotherState('t', IllegalStateException.class, DunningDesk::finish);
     }
 
-    static void promise21Clerk() {
-        for (int message : NO_MESSAGES) {
-            refused(IndexOutOfBoundsException.class, desk -> desk.clerk(message));
-        }
-        for (int message : new int[] {0, 1, 3, 4, 5, 7}) {
-            refused(NoSuchElementException.class, desk -> desk.clerk(message));
-        }
+    @Says("Throws `IndexOutOfBoundsException` if there is no such message")
+    static void promise19NoSuchMessage() {
+        noMessage(DunningDesk::handBack);
     }
 
-    static void promise22Has() {
+    @Says("Throws `IllegalStateException` if it is not taken")
+    static void promise19MessageNotTaken() {
+        inAnotherState('t', IllegalStateException.class, DunningDesk::handBack);
+    }
+
+    @Says("Throws `IndexOutOfBoundsException` if there is no such message")
+    static void promise20NoSuchMessage() {
+        noMessage(DunningDesk::revive);
+    }
+
+    @Says("Throws `IllegalStateException` if it is not dead")
+    static void promise20MessageNotDead() {
+        inAnotherState('x', IllegalStateException.class, DunningDesk::revive);
+    }
+
+    @Says("Throws `IndexOutOfBoundsException` if there is no such message")
+    static void promise21NoSuchMessage() {
+        noMessage(DunningDesk::clerk);
+    }
+
+    @Says("Throws `NoSuchElementException` if it is not taken")
+    static void promise21MessageNotTaken() {
+        inAnotherState('t', NoSuchElementException.class, DunningDesk::clerk);
+    }
+
+    @Says("Throws `IllegalArgumentException` if there is no such clerk")
+    static void promise22NoSuchClerk() {
         for (int clerk : NO_CLERKS) {
             refused(IllegalArgumentException.class, desk -> desk.has(clerk));
         }
     }
 
-    static void promise23Pass() {
+    @Says("Throws `IllegalArgumentException` if the number is out of range,")
+    static void promise23NumberOutOfRange() {
         for (int days : new int[] {0, -1, 31, Integer.MIN_VALUE, Integer.MAX_VALUE}) {
             refused(IllegalArgumentException.class, desk -> desk.pass(days));
         }
-        Checks.same(981, lastDays().day());
-        for (int days : new int[] {19, 30, 31, 0}) {
-            refused(IllegalArgumentException.class, RefusalsTest::lastDays, desk -> desk.pass(days));
-        }
-        Checks.same(0, lastDays().pass(18));
     }
 
-    static void promise25Count() {
-        for (char state : new char[] {'g', 'H', 'r', 0, '\uffff'}) {
+    @Says("or the day would be greater than 999")
+    static void promise23DayWouldBeGreaterThan999() {
+        Checks.same(981, lastDays().day());
+        for (int days : new int[] {19, 30, 31, 0, Integer.MAX_VALUE}) {
+            refused(IllegalArgumentException.class, RefusalsTest::lastDays, desk -> desk.pass(days));
+        }
+        DunningDesk desk = lastDays();
+        Checks.same(0, desk.pass(18));
+        Checks.same(999, desk.day());
+        Checks.refused(IllegalArgumentException.class, () -> desk.pass(1));
+        Checks.refused(IllegalArgumentException.class, () -> desk.pass(30));
+    }
+
+    @Says("Throws `IllegalArgumentException` if there is no such state")
+    static void promise25NoSuchState() {
+        for (char state : new char[] {'g', 'i', 'H', 'W', 'r', 'p', 'n', ' ', 0, '\uffff'}) {
             refused(IllegalArgumentException.class, desk -> desk.count(state));
         }
     }
 
-    static void promise26DoneShare() {
-        Checks.refused(ArithmeticException.class, () -> Desks.withCase(5, 5).doneShare());
+    @Says("Throws `ArithmeticException` if there are no messages")
+    static void promise26NoMessages() {
+        refused(ArithmeticException.class, DunningDesk::new, DunningDesk::doneShare);
+        refused(ArithmeticException.class, () -> Desks.withCases(8), DunningDesk::doneShare);
+        Checks.same(0.0f, Desks.withMessageIn('h', 0).doneShare());
     }
 
-    static void promise27MeanAmount() {
-        DunningDesk desk = new DunningDesk();
-        desk.post(0, 1, 'p', 0, 5, 0);
-        Checks.refused(ArithmeticException.class, desk::meanAmount);
-        desk.open(5, 5);
-        desk.take(0, 0);
-        desk.finish(0);
-        Checks.refused(ArithmeticException.class, desk::meanAmount);
+    @Says("Throws `ArithmeticException` if there are none")
+    static void promise27NoOpenCases() {
+        refused(ArithmeticException.class, DunningDesk::new, DunningDesk::meanAmount);
+        refused(ArithmeticException.class, RefusalsTest::paid, DunningDesk::meanAmount);
+        refused(ArithmeticException.class, () -> {
+            DunningDesk desk = new DunningDesk();
+            desk.post(0, 1, 'p', 0, 5, 0);
+            return desk;
+        }, DunningDesk::meanAmount);
+        DunningDesk desk = paid();
+        desk.open(1, 5);
+        Checks.same(1.0, desk.meanAmount());
     }
 }
