@@ -336,6 +336,33 @@ final class CasesTest {
         Checks.same(1, sentFirst.lettersByMessages(0));
     }
 
+    static void promise07LettersOfEightCasesInAFullDesk() {
+        DunningDesk desk = new DunningDesk();
+        for (int number = 0; number < 8; number++) {
+            desk.open(100, 0);
+        }
+        for (int step = 0; step < 3; step++) {
+            Checks.same(8, desk.pass(7));
+            for (int number = 7; number >= 0; number--) {
+                desk.take(number / 2, 0);
+            }
+            for (int number = 7; number >= 0; number--) {
+                Checks.yes(desk.finish(desk.withKey(1000 + 10 * number + step)));
+            }
+        }
+        for (int message = 24; message < 80; message++) {
+            Checks.same(message, desk.post(1, message, 'p', message % 8, 1, 0));
+            desk.take(0, 1);
+            Checks.yes(desk.finish(message));
+        }
+        Checks.same(80, desk.count('d'));
+        for (int number = 0; number < 8; number++) {
+            Checks.same(93, desk.amount(number));
+            Checks.same(3, desk.letters(number));
+            Checks.same(3, desk.lettersByMessages(number));
+        }
+    }
+
     @Says("Returns the number of letters.")
     static void promise07PaymentsOfAPartLeaveTheCaseOpen() {
         DunningDesk desk = Desks.withCase(100, 0);

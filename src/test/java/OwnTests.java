@@ -6,9 +6,9 @@ import java.util.Comparator;
 /** Runs every test of the project: each static method without arguments of the classes below. */
 public final class OwnTests {
     static final Class<?>[] CLASSES = {
-        TermsTest.class, CasesTest.class, MessagesTest.class, ClerksTest.class, DaysTest.class,
-        RangesTest.class, RefusalsTest.class, DocumentTest.class, FaceTest.class, LanguageTest.class,
-        ModelTest.class,
+        TermsTest.class, DeedsTest.class, CasesTest.class, MessagesTest.class, ClerksTest.class,
+        DaysTest.class, RangesTest.class, RefusalsTest.class, ExtremesTest.class, DocumentTest.class,
+        FaceTest.class, LanguageTest.class, ModelTest.class,
     };
     static final int PROMISES = 27;
 
