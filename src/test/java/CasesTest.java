@@ -336,6 +336,28 @@ final class CasesTest {
         Checks.same(1, sentFirst.lettersByMessages(0));
     }
 
+    static void promise07MessagesOfOtherCasesDoNotCount() {
+        DunningDesk desk = Desks.withCase(100, 999);
+        desk.open(100, 0);
+        desk.open(100, 999);
+        Checks.yes(Desks.postedAndFinished(desk, 1, 'p', 0, 100));
+        Checks.yes(Desks.postedAndFinished(desk, 2, 'p', 2, 100));
+        Checks.same(1, desk.pass(1));
+        Checks.yes(Desks.reminded(desk, 1, 0));
+        for (int number = 0; number < 3; number++) {
+            Checks.same(number == 1 ? 1 : 0, desk.letters(number));
+            Checks.same(number == 1 ? 1 : 0, desk.lettersByMessages(number));
+        }
+        DunningDesk unpaid = Desks.withCases(3);
+        Desks.passTo(unpaid, 103);
+        Checks.same(0, unpaid.take(0, 0));
+        Checks.same(1, unpaid.take(0, 0));
+        Checks.yes(Desks.reminded(unpaid, 2, 0));
+        for (int number = 0; number < 3; number++) {
+            Checks.same(number == 2 ? 1 : 0, unpaid.lettersByMessages(number));
+        }
+    }
+
     static void promise07LettersOfEightCasesInAFullDesk() {
         DunningDesk desk = new DunningDesk();
         for (int number = 0; number < 8; number++) {

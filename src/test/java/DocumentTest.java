@@ -8,19 +8,24 @@ import java.util.LinkedHashMap;
 import java.util.List;
 import java.util.Map;
 
-/** That the tests leave out no word of the document's terms and promises, and quote it as it stands. */
+/** That the tests leave out no word of what the document binds the class to, and quote it as it stands. */
 final class DocumentTest {
     private DocumentTest() {
     }
 
-    /** The text of the terms and of each promise, behind what the names of its tests begin with. */
+    /**
+     * The first text, the terms and each promise, behind what the names of its tests begin with. FaceTest
+     * has the face; what is not promised needs no test.
+     */
     private static Map<String, String> sections() {
         Map<String, String> sections = new LinkedHashMap<>();
         for (String part : text().split("(?m)^## ")) {
             int end = part.indexOf('\n');
             String heading = end < 0 ? part : part.substring(0, end);
             String body = end < 0 ? "" : part.substring(end).strip();
-            if (heading.equals("Terms")) {
+            if (heading.equals("What it is")) {
+                sections.put("about", onOneLine(body));
+            } else if (heading.equals("Terms")) {
                 sections.put("terms", onOneLine(body));
             } else if (heading.startsWith("Promise ")) {
                 int number = Integer.parseInt(heading.substring(8, heading.indexOf(':')));
@@ -31,7 +36,7 @@ final class DocumentTest {
         return sections;
     }
 
-    private static String text() {
+    static String text() {
         try {
             return Files.readString(Path.of(OwnTests.document));
         } catch (IOException e) {
@@ -67,8 +72,16 @@ final class DocumentTest {
         return new String(left);
     }
 
-    static void ruleTermsAndPromisesAreAllRead() {
-        Checks.same(1 + OwnTests.PROMISES, sections().size());
+    static void ruleAllSectionsAreRead() {
+        Checks.same(2 + OwnTests.PROMISES, sections().size());
+        List<String> others = new ArrayList<>();
+        for (String part : text().split("(?m)^## ")) {
+            String heading = part.substring(0, part.indexOf('\n'));
+            if (!heading.startsWith("Promise ")) {
+                others.add(heading);
+            }
+        }
+        Checks.same("[# DunningDesk, What it is, The public face, Terms, Not promised]", others.toString());
     }
 
     static void ruleEachQuoteStandsInItsSection() {

@@ -1,9 +1,14 @@
 import java.lang.reflect.InvocationTargetException;
 import java.lang.reflect.Method;
 import java.util.Arrays;
+import java.util.Comparator;
+import java.util.Random;
 import java.util.function.Supplier;
 
-/** Calls with arguments far out and at every edge, on desks of all kinds: none throws but what it documents. */
+/**
+ * Calls with arguments far out and at every edge, on desks of all kinds, and far more calls than an object
+ * is used for: none throws but what it documents.
+ */
 final class ExtremesTest {
     private static final int[] NUMBERS = {
         Integer.MIN_VALUE, Integer.MIN_VALUE + 1, -1000, -1, 0, 1, 2, 3, 4, 7, 8, 9, 30, 31, 60, 61, 79, 80, 81,
@@ -32,6 +37,31 @@ final class ExtremesTest {
                 }
             }
         }
+    }
+
+    /** What later calls answer is not looked at; but the machine must not throw in them, either. */
+    @Says("what later calls answer is free.")
+    static void aboutLaterCallsThrowOnlyWhatIsDocumented() {
+        Method[] calls = Arrays.stream(DunningDesk.class.getMethods())
+            .filter(method -> method.getDeclaringClass() == DunningDesk.class)
+            .sorted(Comparator.comparing(Method::getName)).toArray(Method[]::new);
+        for (int seed = 0; seed < 20; seed++) {
+            Random random = new Random(seed);
+            DunningDesk desk = new DunningDesk();
+            for (int call = 0; call < 10000; call++) {
+                Method method = calls[random.nextInt(calls.length)];
+                answers(desk, method, anyArguments(method.getParameterTypes(), random));
+            }
+        }
+    }
+
+    private static Object[] anyArguments(Class<?>[] types, Random random) {
+        Object[] arguments = new Object[types.length];
+        for (int place = 0; place < types.length; place++) {
+            arguments[place] = types[place] == char.class ? (Object) SIGNS[random.nextInt(SIGNS.length)]
+                : (Object) random.nextInt(random.nextBoolean() ? 4 : 90);
+        }
+        return arguments;
     }
 
     private static void eachArgument(Supplier<DunningDesk> start, Method method) {

@@ -2,43 +2,38 @@ import java.lang.reflect.Constructor;
 import java.lang.reflect.Field;
 import java.lang.reflect.Method;
 import java.lang.reflect.Modifier;
+import java.util.ArrayList;
 import java.util.Arrays;
+import java.util.List;
 import java.util.Set;
 import java.util.TreeSet;
+import java.util.regex.Matcher;
+import java.util.regex.Pattern;
 import java.util.stream.Collectors;
 
-/** That the class shows the face of the document, and nothing else (LANGUAGE.md, rules 1, 2, 5 and 11). */
+/** That the class shows the face that the document writes, and nothing else (LANGUAGE.md, rules 1, 2, 5 and 11). */
 final class FaceTest {
-    private static final String[] FACE = {
-        "boolean awaitNote(int) IndexOutOfBoundsException IllegalStateException",
-        "boolean finish(int) IndexOutOfBoundsException IllegalStateException",
-        "char kind(int) IndexOutOfBoundsException",
-        "char state(int) IndexOutOfBoundsException",
-        "double meanAmount() ArithmeticException",
-        "float doneShare() ArithmeticException",
-        "int amount(int) IndexOutOfBoundsException",
-        "int clerk(int) IndexOutOfBoundsException NoSuchElementException",
-        "int count(char) IllegalArgumentException",
-        "int day()",
-        "int handBack(int) IndexOutOfBoundsException IllegalStateException",
-        "int has(int) IllegalArgumentException",
-        "int letters(int) IndexOutOfBoundsException",
-        "int lettersByMessages(int) IndexOutOfBoundsException",
-        "int nextReminder(int) IndexOutOfBoundsException NoSuchElementException",
-        "int open(int,int) IllegalArgumentException IllegalStateException",
-        "int pass(int) IllegalArgumentException",
-        "int pause(int,int) IndexOutOfBoundsException IllegalArgumentException IllegalStateException",
-        "int post(int,int,char,int,int,int) IllegalArgumentException IllegalStateException",
-        "int ready(int) IllegalArgumentException",
-        "int readyAt(int) IndexOutOfBoundsException IllegalStateException",
-        "int readyAtPlace(int,int) IllegalArgumentException NoSuchElementException",
-        "int revive(int) IndexOutOfBoundsException IllegalStateException",
-        "int take(int,int) IllegalArgumentException IllegalStateException NoSuchElementException",
-        "int tries(int) IndexOutOfBoundsException",
-        "int withKey(int) NoSuchElementException",
-    };
-
     private FaceTest() {
+    }
+
+    /** What stands behind "public" in each line of the document's face, the constructor first. */
+    private static List<String> documented() {
+        String face = DocumentTest.text().replaceFirst("(?s).*?\n## The public face\n(.*?)\n## .*", "$1");
+        List<String> signatures = new ArrayList<>();
+        Matcher line = Pattern.compile("(?m)^ {4}public (.*);$").matcher(face);
+        while (line.find()) {
+            signatures.add(line.group(1));
+        }
+        return signatures;
+    }
+
+    /** As told(Method): without the names of the arguments. */
+    private static String told(String signature) {
+        Matcher parts = Pattern.compile("(\\w+ \\w+)\\((.*)\\)(?: throws (.*))?").matcher(signature);
+        Checks.yes(parts.matches());
+        String types = parts.group(2).replaceAll(" \\w+(,|$)", "$1").replace(" ", "");
+        String exceptions = parts.group(3) == null ? "" : " " + parts.group(3).replace(",", "");
+        return parts.group(1) + "(" + types + ")" + exceptions;
     }
 
     private static String names(Class<?>[] types, String between) {
@@ -64,7 +59,12 @@ final class FaceTest {
                 shownNames.add(method.getName());
             }
         }
-        Checks.same(String.join("\n", new TreeSet<>(Arrays.asList(FACE))), String.join("\n", shown));
+        Set<String> due = new TreeSet<>();
+        for (String signature : documented().subList(1, documented().size())) {
+            due.add(told(signature));
+        }
+        Checks.same(String.join("\n", due), String.join("\n", shown));
+        Checks.same(26, shown.size());
         for (Class<?> inside : DunningDesk.class.getDeclaredClasses()) {
             for (Method method : inside.getDeclaredMethods()) {
                 hiddenNames.add(method.getName());
@@ -72,6 +72,23 @@ final class FaceTest {
         }
         hiddenNames.retainAll(shownNames);
         Checks.same("[]", hiddenNames.toString());
+    }
+
+    static void ruleArgumentsBearTheNamesOfTheDocument() {
+        String source = LanguageTest.source().replaceAll("\\s+", " ");
+        for (String signature : documented()) {
+            Checks.same(signature, source.contains(" public " + signature + " {") ? signature : "not in the source");
+        }
+    }
+
+    static void rulePromisesAreThoseOfTheFace() {
+        List<String> promised = new ArrayList<>();
+        Matcher promise = Pattern.compile("(?m)^## Promise \\d+: .*\n\n`([^`]*)`: ").matcher(DocumentTest.text());
+        while (promise.find()) {
+            promised.add(promise.group(1));
+        }
+        Checks.same(String.join("\n", documented()), String.join("\n", promised));
+        Checks.same(OwnTests.PROMISES, promised.size());
     }
 
     static void ruleClassIsFinalWithOneConstructor() {

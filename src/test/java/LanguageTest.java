@@ -18,7 +18,7 @@ final class LanguageTest {
     private LanguageTest() {
     }
 
-    private static String source() {
+    static String source() {
         try {
             return Files.readString(Path.of(OwnTests.source));
         } catch (IOException e) {

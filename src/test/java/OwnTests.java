@@ -6,9 +6,9 @@ import java.util.Comparator;
 /** Runs every test of the project: each static method without arguments of the classes below. */
 public final class OwnTests {
     static final Class<?>[] CLASSES = {
-        TermsTest.class, DeedsTest.class, CasesTest.class, MessagesTest.class, ClerksTest.class,
+        AboutTest.class, TermsTest.class, DeedsTest.class, CasesTest.class, MessagesTest.class, ClerksTest.class,
         DaysTest.class, RangesTest.class, RefusalsTest.class, ExtremesTest.class, DocumentTest.class,
-        FaceTest.class, LanguageTest.class, ModelTest.class,
+        FaceTest.class, LanguageTest.class, ReadmeTest.class, ModelTest.class,
     };
     static final int PROMISES = 27;
 

@@ -5,7 +5,7 @@ import java.lang.annotation.Target;
 
 /**
  * The words of the document that a test holds the class to. They stand in the section that the test's
- * name begins with: "terms", or "promise" and its number.
+ * name begins with: "about" (what it is), "terms", or "promise" and its number.
  */
 @Retention(RetentionPolicy.RUNTIME)
 @Target(ElementType.METHOD)
